@@ -1178,6 +1178,8 @@ public final class DialectAtlas {
         private final Answers ledger;
         private final int[] said = new int[Land.MOST * THINGS];
         private final int[] distances = new int[MOST_VILLAGES * MOST_VILLAGES];
+        /** By village and dialect: the sum of its distances to those ahead of it that are placed there. */
+        private final int[] costs = new int[MOST_VILLAGES * MOST];
         private final int[] row = new int[MOST_VILLAGES];
         private final int[] bestRow = new int[MOST_VILLAGES];
         private int bestSum;
@@ -1216,7 +1218,9 @@ public final class DialectAtlas {
             return Math.min(land.size(), MOST_VILLAGES);
         }
 
-        private void measureAll(int day) {
+        /** Measures all pairs, and clears the costs: no village is placed. */
+        private void begin(int day) {
+            Arrays.fill(costs, 0);
             for (int v = 0; v < villages(); v++) {
                 listenTo(v, day);
                 for (int u = 0; u < v; u++) {
@@ -1225,26 +1229,26 @@ public final class DialectAtlas {
             }
         }
 
-        /** What village v adds to the sum in dialect d, those ahead of it being placed in the row. */
-        private int costOf(int v, int d, int used) {
-            int sum = d == used ? PRICE : 0;
-            for (int u = 0; u < v; u++) {
-                if (row[u] == d) {
-                    sum += distances[v * MOST_VILLAGES + u];
-                }
+        /** Places village v in dialect d (sign 1) or lifts it (sign -1), for those behind it. */
+        private void place(int v, int d, int sign) {
+            for (int u = v + 1; u < villages(); u++) {
+                costs[u * MOST + d] += sign * distances[u * MOST_VILLAGES + v];
             }
-            return sum;
+        }
+
+        private int costOf(int v, int d, int used) {
+            return costs[v * MOST + d] + (d == used ? PRICE : 0);
         }
 
         void search(int k, int day) {
-            measureAll(day);
+            begin(day);
             bestSum = ABOVE_ALL;
             part(0, 0, 0, k);
         }
 
         private void part(int v, int used, int sum, int k) {
             // Rows come in their order, so a later one must be better, not just as good.
-            if (sum >= bestSum) {
+            if (sum + leastRest(v, used, k) >= bestSum) {
                 return;
             }
             if (v >= villages()) {
@@ -1254,8 +1258,24 @@ public final class DialectAtlas {
             }
             for (int d = 0; d <= used && d < k; d++) {
                 row[v] = d;
-                part(v + 1, Math.max(used, d + 1), sum + costOf(v, d, used), k);
+                int more = sum + costOf(v, d, used);
+                place(v, d, 1);
+                part(v + 1, Math.max(used, d + 1), more, k);
+                place(v, d, -1);
             }
+        }
+
+        /** What the villages from v on add at least; nothing is sure while a dialect may still be opened. */
+        private int leastRest(int v, int used, int k) {
+            int sum = 0;
+            for (int u = v; u < villages() && used == k; u++) {
+                int least = ABOVE_ALL;
+                for (int d = 0; d < k; d++) {
+                    least = Math.min(least, costs[u * MOST + d]);
+                }
+                sum += least;
+            }
+            return sum;
         }
 
         int leastSum() {
@@ -1267,7 +1287,7 @@ public final class DialectAtlas {
         }
 
         int judge(Sheets sheets, int s, int most, int day) {
-            measureAll(day);
+            begin(day);
             int used = 0;
             int sum = 0;
             for (int v = 0; v < villages() && v < sheets.sizeOf(s); v++) {
@@ -1275,8 +1295,8 @@ public final class DialectAtlas {
                 if (d < 0 || d > used || d >= MOST) {
                     return v;
                 }
-                row[v] = d;
                 sum += costOf(v, d, used);
+                place(v, d, 1);
                 used = Math.max(used, d + 1);
             }
             if (sheets.sizeOf(s) != land.size()) {
