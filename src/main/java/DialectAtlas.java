@@ -1183,6 +1183,7 @@ public final class DialectAtlas {
         private final int[] row = new int[MOST_VILLAGES];
         private final int[] bestRow = new int[MOST_VILLAGES];
         private int bestSum;
+        private int villages;
 
         Dialects(Land land, Forms lexicon, Answers ledger) {
             this.land = land;
@@ -1214,14 +1215,11 @@ public final class DialectAtlas {
             return sum;
         }
 
-        private int villages() {
-            return Math.min(land.size(), MOST_VILLAGES);
-        }
-
         /** Measures all pairs, and clears the costs: no village is placed. */
         private void begin(int day) {
             Arrays.fill(costs, 0);
-            for (int v = 0; v < villages(); v++) {
+            villages = Math.min(land.size(), MOST_VILLAGES);
+            for (int v = 0; v < villages; v++) {
                 listenTo(v, day);
                 for (int u = 0; u < v; u++) {
                     distances[v * MOST_VILLAGES + u] = apart(u, v);
@@ -1231,7 +1229,7 @@ public final class DialectAtlas {
 
         /** Places village v in dialect d (sign 1) or lifts it (sign -1), for those behind it. */
         private void place(int v, int d, int sign) {
-            for (int u = v + 1; u < villages(); u++) {
+            for (int u = v + 1; u < villages; u++) {
                 costs[u * MOST + d] += sign * distances[u * MOST_VILLAGES + v];
             }
         }
@@ -1251,24 +1249,26 @@ public final class DialectAtlas {
             if (sum + leastRest(v, used, k) >= bestSum) {
                 return;
             }
-            if (v >= villages()) {
+            if (v >= villages) {
                 bestSum = sum;
                 System.arraycopy(row, 0, bestRow, 0, row.length);
                 return;
             }
             for (int d = 0; d <= used && d < k; d++) {
-                row[v] = d;
                 int more = sum + costOf(v, d, used);
-                place(v, d, 1);
-                part(v + 1, Math.max(used, d + 1), more, k);
-                place(v, d, -1);
+                if (more < bestSum) {
+                    row[v] = d;
+                    place(v, d, 1);
+                    part(v + 1, Math.max(used, d + 1), more, k);
+                    place(v, d, -1);
+                }
             }
         }
 
         /** What the villages from v on add at least; nothing is sure while a dialect may still be opened. */
         private int leastRest(int v, int used, int k) {
             int sum = 0;
-            for (int u = v; u < villages() && used == k; u++) {
+            for (int u = v; u < villages && used == k; u++) {
                 int least = ABOVE_ALL;
                 for (int d = 0; d < k; d++) {
                     least = Math.min(least, costs[u * MOST + d]);
@@ -1290,7 +1290,7 @@ public final class DialectAtlas {
             begin(day);
             int used = 0;
             int sum = 0;
-            for (int v = 0; v < villages() && v < sheets.sizeOf(s); v++) {
+            for (int v = 0; v < villages && v < sheets.sizeOf(s); v++) {
                 int d = sheets.read(s, v);
                 if (d < 0 || d > used || d >= MOST) {
                     return v;
