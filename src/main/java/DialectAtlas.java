@@ -452,7 +452,6 @@ public final class DialectAtlas {
         return set;
     }
 
-    /** Of the silent villages the one that is farthest from all others, then the one with the most folk. */
     private int farthest(int silent) {
         // Without any village that says something all are CUT, and so all are like.
         land.walkFrom(land.all() & ~silent);
