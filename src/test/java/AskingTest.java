@@ -1,226 +1,439 @@
 /** Promises 26 to 30: whom to ask next, what is foretold, rounds, how a form spreads and its seeds. */
 public final class AskingTest {
-    private static final Check CHECK = new Check();
-
-    public static void main(String[] args) {
-        next();
-        nextTies();
-        foretold();
-        rounds();
-        roundFindings();
-        spread();
-        seeds();
-        seedFindings();
-        CHECK.end();
+    public static void main(String[] args) throws IllegalAccessException {
+        Sentences.run(AskingTest.class);
     }
 
-    private static DialectAtlas line(int lengths, int... folk) {
-        DialectAtlas x = new DialectAtlas();
-        for (int v = 0; v < folk.length; v++) {
-            x.village(v, folk[v]);
-            x.asked(v, 0, 1);
-            if (v > 0) {
-                x.road(v - 1, v, lengths);
-            }
-        }
-        Check.form(x, "a");
-        Check.form(x, "b");
-        Check.form(x, "c");
+    /** Villages one behind the other by roads, and the forms a, b and c; none is told yet. */
+    private static DialectAtlas line(int length, int... folk) {
+        DialectAtlas x = Given.line(length, folk);
+        Given.form(x, "a");
+        Given.form(x, "b");
+        Given.form(x, "c");
         return x;
     }
 
-    private static void next() {
-        DialectAtlas x = line(10, 5, 9, 9, 7, 1);
-        CHECK.due("26: none says anything: the most folk, the least", 1, x.next(0));
-        x.answer(0, 0, 0);
-        CHECK.due("26: the farthest", 4, x.next(0));
-        x.answer(4, 0, 0);
-        CHECK.due("26: the farthest from the nearest", 2, x.next(0));
-        x.answer(2, 0, 0);
-        CHECK.due("26: as far: the most folk", 1, x.next(0));
-        CHECK.due("26: another thing", 1, x.next(1));
-        x.answer(1, 0, 0);
-        x.answer(3, 0, 0);
-        CHECK.due("26: all say something", Check.NONE, x.next(0));
-        x.take(1);
-        CHECK.due("26: as known today", 4, x.next(0));
-        CHECK.due("26: thing 6", Check.BEYOND, x.next(6));
-        CHECK.due("26: thing -1", Check.BEYOND, x.next(-1));
-        CHECK.due("26: no villages", Check.NONE, new DialectAtlas().next(0));
+    @Says(promise = 26, term = 5, text = "NEXT for a THING, as KNOWN on a day: of VILLAGES that say nothing of it the "
+            + "one that is farthest by WALK from the nearest one that says something")
+    static void theFarthestFromTheNearest(Check check) {
+        DialectAtlas x = line(10, 9, 9, 9, 9, 1, 9);
+        Given.say(x, 0, 0, 0);
+        check.due("from one", 5, x.next(0));
+        Given.say(x, 5, 0, 0);
+        check.due("from the nearest of two, most folk", 2, x.next(0));
+        x.road(4, 5, 11);
+        x.road(3, 4, 11);
+        x.road(2, 3, 1);
+        check.due("21 rather than 20", 3, x.next(0));
+        Given.say(x, 3, 0, 0);
+        check.due("11 rather than 10, with less folk", 4, x.next(0));
+        check.due("of another thing all are like", 0, x.next(1));
     }
 
-    private static void nextTies() {
-        DialectAtlas x = line(99, 1, 1, 1, 1, 1, 1);
-        x.answer(0, 0, 0);
-        x.road(3, 4, 0);
-        CHECK.due("26: cut is farther than all", 4, x.next(0));
-        x.answer(5, 0, 1);
-        CHECK.due("26: no longer cut", 3, x.next(0));
-        x.village(9, 2);
-        x.village(9, 3);
-        x.village(9, 3);
-        CHECK.due("26: of those cut the most folk, the least", 7, x.next(0));
-        DialectAtlas y = line(5, 2, 8, 3, 3);
-        y.answer(1, 0, 0);
-        y.road(0, 2, 4);
-        y.road(1, 3, 5);
-        CHECK.due("26: as far, the most folk, the least", 2, y.next(0));
-        DialectAtlas z = line(5, 3, 3, 3);
-        z.answer(2, 0, 0);
-        CHECK.due("26: village 0 is the farthest", 0, z.next(0));
+    @Says(promise = 26, term = 5, text = "(CUT is farther than all")
+    static void cutIsFarther(Check check) {
+        DialectAtlas x = line(99, 9, 9, 9, 9, 9, 9, 9, 9, 9, 9, 9, 1);
+        x.road(10, 11, 0);
+        Given.say(x, 0, 0, 0);
+        check.due("one that is cut, with less folk", 11, x.next(0));
+        x.road(10, 11, 1);
+        check.due("joined", 11, x.next(0));
+        Given.say(x, 11, 0, 0);
+        check.due("between both", 5, x.next(0));
     }
 
-    private static void foretold() {
-        DialectAtlas x = line(9, 999, 100, 40, 300);
-        CHECK.due("27: no form", Check.NONE, x.foretold(0, 0));
-        x.answer(0, 0, 0);
-        CHECK.due("27: itself is left out", Check.NONE, x.foretold(0, 0));
-        CHECK.due("27: the only one", 0, x.foretold(3, 0));
-        x.answer(1, 0, 2);
-        x.answer(2, 0, 1);
-        // From 3: 999 by 28 is 35, 100 by 19 is 5, 40 by 10 is 4.
-        CHECK.due("27: the greatest", 0, x.foretold(3, 0));
-        CHECK.due("27: of village 1: 99 for 0, 4 for 1", 0, x.foretold(1, 0));
-        CHECK.due("27: of village 0: 10 for 2, 2 for 1", 2, x.foretold(0, 0));
+    @Says(promise = 26, term = 5, text = "without any that says something: all are like)")
+    static void allAreLikeWithoutAny(Check check) {
+        DialectAtlas x = line(10, 5, 9, 9, 7);
+        check.due("the most folk, the least", 1, x.next(0));
         x.road(2, 3, 0);
-        CHECK.due("27: cut", Check.NONE, x.foretold(3, 0));
-        CHECK.due("27: another thing", Check.NONE, x.foretold(1, 1));
-        DialectAtlas y = line(9, 1, 19, 11, 10, 1);
-        y.road(0, 2, 9);
-        y.road(0, 3, 9);
-        y.road(0, 4, 9);
-        y.answer(1, 0, 2);
-        y.answer(2, 0, 1);
-        CHECK.due("27: each is cut: 1 and 1, the least", 1, y.foretold(0, 0));
-        y.answer(3, 0, 2);
-        CHECK.due("27: the sum: 2 and 1", 2, y.foretold(0, 0));
-        DialectAtlas z = line(99, 50, 50, 50);
-        z.answer(2, 0, 2);
-        CHECK.due("27: a sum of 0", 2, z.foretold(0, 0));
-        z.answer(1, 0, 1);
-        CHECK.due("27: sums of 0, the least", 1, z.foretold(0, 0));
-        z.take(1);
-        CHECK.due("27: as known today", 2, z.foretold(0, 0));
-        CHECK.due("27: village 3", Check.BEYOND, z.foretold(3, 0));
-        CHECK.due("27: village -1", Check.BEYOND, z.foretold(-1, 0));
-        CHECK.due("27: thing 6", Check.BEYOND, z.foretold(0, 6));
+        check.due("roads do not count", 1, x.next(0));
+        check.due("one village alone", 0, Given.villages(1).next(5));
     }
 
-    private static void rounds() {
-        DialectAtlas x = line(3, 1, 1, 1, 1, 1, 1, 1, 1);
-        order(x, 0, 0b11111110, 42, 1, 2, 3, 4, 5, 6, 7);
-        order(x, 7, 0b1111111, 42, 0, 1, 2, 3, 4, 5, 6);
-        order(x, 3, 0b10001001 & ~8, 42, 0, 7);
-        order(x, 3, 0, 0);
-        order(x, 5, 0b10000, 6, 4);
-        DialectAtlas star = new DialectAtlas();
-        for (int v = 0; v < 8; v++) {
-            star.village(v, 1);
+    @Says(promise = 26, term = 5, text = "of several that with the most FOLK")
+    static void ofSeveralTheMostFolk(Check check) {
+        DialectAtlas x = line(10, 5, 1, 6);
+        Given.say(x, 1, 0, 0);
+        check.due("5 or 6", 2, x.next(0));
+        DialectAtlas cut = Given.villages(1);
+        cut.village(0, 998);
+        cut.village(0, 999);
+        cut.village(0, 998);
+        Given.form(cut, "a");
+        Given.say(cut, 0, 0, 0);
+        check.due("of those that are cut", 2, cut.next(0));
+    }
+
+    @Says(promise = 26, term = 5, text = "with the most FOLK, of several the least.")
+    static void ofSeveralTheLeast(Check check) {
+        DialectAtlas x = line(10, 5, 1, 5);
+        Given.say(x, 1, 0, 0);
+        check.due("5 and 5", 0, x.next(0));
+        DialectAtlas cut = Given.sayers("a", "", "", "");
+        check.due("of those that are cut", 1, cut.next(0));
+    }
+
+    @Says(promise = 26, text = "NEXT for a THING, as KNOWN TODAY.")
+    static void nextOfToday(Check check) {
+        DialectAtlas x = Given.sayers("a", "a", "");
+        check.due("the one that is left", 2, x.next(0));
+        x.day(3);
+        x.take(0);
+        check.due("one is taken back today", 0, x.next(0));
+        x.undo();
+        check.due("it is not", 2, x.next(0));
+    }
+
+    @Says(promise = 26, text = "BEYOND.")
+    static void nextOfNoThing(Check check) {
+        DialectAtlas x = Given.villages(1);
+        check.due("thing 6", Check.BEYOND, x.next(6));
+        check.due("thing -1", Check.BEYOND, x.next(-1));
+        check.due("the greatest int", Check.BEYOND, x.next(Integer.MAX_VALUE));
+        check.due("thing 5", 0, x.next(5));
+    }
+
+    @Says(promise = 26, text = "NONE: all say something (or there are no VILLAGES).")
+    static void noneIsNext(Check check) {
+        check.due("no villages", Check.NONE, new DialectAtlas().next(0));
+        DialectAtlas x = Given.sayers("a", "a");
+        check.due("all say something", Check.NONE, x.next(0));
+        check.due("not of this thing", 0, x.next(1));
+    }
+
+    @Says(promise = 27, term = 5, text = "FORETOLD for a VILLAGE: the FORM with the greatest sum, over VILLAGES that say it")
+    static void theGreatestSumIsForetold(Check check) {
+        DialectAtlas x = line(1, 1, 10, 12, 12);
+        Given.say(x, 1, 0, 2);
+        Given.say(x, 2, 0, 1);
+        check.due("5 for c, 4 for b", 2, x.foretold(0, 0));
+        Given.say(x, 3, 0, 1);
+        check.due("5 for c, 4 and 3 for b", 1, x.foretold(0, 0));
+    }
+
+    @Says(promise = 27, term = 5, text = "and aren't CUT from it")
+    static void thoseThatAreCutDoNotCount(Check check) {
+        DialectAtlas x = line(1, 1, 1, 999);
+        Given.say(x, 1, 0, 2);
+        Given.say(x, 2, 0, 1);
+        check.due("joined", 1, x.foretold(0, 0));
+        x.road(1, 2, 0);
+        check.due("cut", 2, x.foretold(0, 0));
+    }
+
+    @Says(promise = 27, term = 5, text = "(itself left out)")
+    static void itselfIsLeftOut(Check check) {
+        DialectAtlas x = line(99, 999, 1);
+        Given.say(x, 0, 0, 0);
+        check.due("no other one says anything", Check.NONE, x.foretold(0, 0));
+        Given.say(x, 1, 0, 1);
+        check.due("what the other one says", 1, x.foretold(0, 0));
+    }
+
+    @Says(promise = 27, term = 5, text = "of FOLK by (1 and the WALK), each cut")
+    static void folkByTheWalkEachCut(Check check) {
+        DialectAtlas x = new DialectAtlas();
+        int[] folk = {1, 19, 11, 19};
+        for (int v = 0; v < 4; v++) {
+            x.village(0, folk[v]);
             if (v > 0) {
-                star.road(0, v, v);
+                x.road(0, v, 9);
             }
         }
-        order(star, 0, 0b11111110, 56, 1, 2, 3, 4, 5, 6, 7);
-        order(star, 4, 0b11101110, 56, 1, 2, 3, 5, 6, 7);
-        DialectAtlas ring = new DialectAtlas();
-        for (int v = 0; v < 6; v++) {
-            ring.village(v, 1);
-        }
+        Given.form(x, "a");
+        Given.form(x, "b");
+        Given.form(x, "c");
+        Given.say(x, 1, 0, 2);
+        Given.say(x, 2, 0, 1);
+        check.due("19 by 10 is as much as 11 by 10", 1, x.foretold(0, 0));
+        x.road(0, 1, 8);
+        check.due("19 by 9 is more", 2, x.foretold(0, 0));
+        x.road(0, 1, 9);
+        Given.say(x, 3, 0, 2);
+        x.road(0, 2, 3);
+        check.due("1 and 1, though 38 by 10 is more than 11 by 4", 1, x.foretold(0, 0));
+    }
+
+    @Says(promise = 27, term = 5, text = "each cut; of several the least.")
+    static void theLeastForetold(Check check) {
+        DialectAtlas x = line(99, 50, 50, 50);
+        Given.say(x, 2, 0, 2);
+        check.due("a sum of 0", 2, x.foretold(0, 0));
+        Given.say(x, 1, 0, 1);
+        check.due("two sums of 0", 1, x.foretold(0, 0));
+    }
+
+    @Says(promise = 27, text = "FORETOLD for a VILLAGE and a THING, as KNOWN TODAY.")
+    static void foretoldOfToday(Check check) {
+        DialectAtlas x = line(1, 1, 1);
+        Given.say(x, 0, 5, 1);
+        check.due("of that thing", 1, x.foretold(1, 5));
+        check.due("of another thing", Check.NONE, x.foretold(1, 4));
+        x.day(9);
+        x.answer(0, 5, 0);
+        check.due("told today", 0, x.foretold(1, 5));
+        x.take(1);
+        check.due("taken back today", 1, x.foretold(1, 5));
+    }
+
+    @Says(promise = 27, text = "BEYOND.")
+    static void foretoldOutside(Check check) {
+        check.due("no villages at all", Check.BEYOND, new DialectAtlas().foretold(0, 0));
+        DialectAtlas x = Given.sayers("a");
+        check.due("village 1", Check.BEYOND, x.foretold(1, 0));
+        check.due("village -1", Check.BEYOND, x.foretold(-1, 0));
+        check.due("thing 6", Check.BEYOND, x.foretold(0, 6));
+        check.due("thing -1", Check.BEYOND, x.foretold(0, -1));
+    }
+
+    @Says(promise = 27, text = "NONE: no FORM.")
+    static void noFormIsForetold(Check check) {
+        DialectAtlas x = line(1, 1, 1, 1);
+        check.due("nobody says anything", Check.NONE, x.foretold(0, 0));
+        Given.say(x, 2, 0, 0);
+        check.due("form 0 is one", 0, x.foretold(0, 0));
+        x.road(1, 2, 0);
+        check.due("all are cut", Check.NONE, x.foretold(0, 0));
+    }
+
+    @Says(promise = 28, term = 5, text = "A ROUND from a VILLAGE over a set of others (7 at most) and home")
+    static void sevenAndHome(Check check) {
+        DialectAtlas x = Given.line(3, 1, 1, 1, 1, 1, 1, 1, 1);
+        order(check, x, 0, 0b11111110, 42, 1, 2, 3, 4, 5, 6, 7);
+        order(check, x, 7, 0b1111111, 42, 0, 1, 2, 3, 4, 5, 6);
+        order(check, x, 5, 0b10000, 6, 4);
+        order(check, x, 3, 0, 0);
+    }
+
+    @Says(promise = 28, term = 5, text = "the least sum of WALKS")
+    static void theLeastSumOfWalks(Check check) {
+        DialectAtlas x = Given.villages(12);
         int[] around = {0, 4, 1, 5, 2, 3};
         for (int i = 0; i < 6; i++) {
-            ring.road(around[i], around[(i + 1) % 6], 10);
+            x.road(around[i], around[(i + 1) % 6], 10);
         }
-        order(ring, 0, 0b111110, 60, 3, 2, 5, 1, 4);
-        order(ring, 1, 0b111101, 60, 4, 0, 3, 2, 5);
+        order(check, x, 0, 0b111110, 60, 3, 2, 5, 1, 4);
+        order(check, x, 1, 0b111101, 60, 4, 0, 3, 2, 5);
+        order(check, x, 0, 0b000110, 60, 1, 2);
     }
 
-    private static void order(DialectAtlas x, int home, int set, int sum, int... stops) {
-        CHECK.due("28: the sum from " + home, sum, x.round(home, set, -1));
+    @Says(promise = 28, term = 5, text = "of several the order that is the first as a row of VILLAGES.")
+    static void theFirstOrder(Check check) {
+        DialectAtlas star = Given.villages(12);
+        for (int v = 1; v < 12; v++) {
+            star.road(0, v, v);
+        }
+        order(check, star, 0, 0b111111100000, 112, 5, 6, 7, 8, 9, 10, 11);
+        order(check, star, 4, 0b11101110, 56, 1, 2, 3, 5, 6, 7);
+        order(check, star, 11, 0b1, 22, 0);
+    }
+
+    private static void order(Check check, DialectAtlas x, int home, int set, int sum, int... stops) {
+        check.due("the sum from " + home, sum, x.round(home, set, -1));
         for (int i = 0; i < stops.length; i++) {
-            CHECK.due("28: stop " + i + " from " + home, stops[i], x.round(home, set, i));
+            check.due("stop " + i + " from " + home, stops[i], x.round(home, set, i));
         }
-        CHECK.due("28: not so many", Check.NONE, x.round(home, set, stops.length));
+        check.due("one more from " + home, Check.NONE, x.round(home, set, stops.length));
     }
 
-    private static void roundFindings() {
-        DialectAtlas x = new DialectAtlas();
-        CHECK.due("28: no village", Check.BEYOND, x.round(0, 0, -1));
-        for (int v = 0; v < 9; v++) {
-            x.village(v, 1);
-        }
-        CHECK.due("28: village 9", Check.BEYOND, x.round(9, 0, -1));
-        CHECK.due("28: village -1", Check.BEYOND, x.round(-1, 0, -1));
-        CHECK.due("28: a bit of another one", Check.BEYOND, x.round(0, 512, -1));
-        CHECK.due("28: below 0", Check.BEYOND, x.round(0, -2, -1));
-        CHECK.due("28: home itself", Check.BEYOND, x.round(0, 3, -1));
-        CHECK.due("28: what -2", Check.BEYOND, x.round(0, 2, -2));
-        CHECK.due("28: eight", Check.SIZE, x.round(0, 510, 0));
-        CHECK.due("28: BEYOND ahead of SIZE", Check.BEYOND, x.round(0, 511, 0));
-        CHECK.due("28: cut", Check.CUT, x.round(0, 2, 0));
-        CHECK.due("28: CUT ahead of NONE", Check.CUT, x.round(0, 2, 5));
-        x.road(0, 1, 4);
-        CHECK.due("28: there and back", 8, x.round(0, 2, -1));
-        CHECK.due("28: one of them is cut", Check.CUT, x.round(0, 6, -1));
-        CHECK.due("28: village 0 is cut", Check.CUT, x.round(5, 1, -1));
-        CHECK.due("28: no such stop", Check.NONE, x.round(0, 2, 1));
-        CHECK.due("28: far behind the last", Check.NONE, x.round(0, 2, Integer.MAX_VALUE));
+    @Says(promise = 28, text = "Of a ROUND from a VILLAGE over a set: what -1 the sum; else VILLAGE number what of the "
+            + "order (from 0 on).")
+    static void partsOfARound(Check check) {
+        DialectAtlas x = Given.line(5, 1, 1, 1);
+        check.due("the sum", 20, x.round(0, 6, -1));
+        check.due("the first", 1, x.round(0, 6, 0));
+        check.due("the second", 2, x.round(0, 6, 1));
+        check.due("an empty set", 0, x.round(0, 0, -1));
     }
 
-    private static void spread() {
-        DialectAtlas x = line(1, 1, 1, 1, 1);
-        CHECK.due("29: no years", 1, x.spread(1, 0));
-        CHECK.due("29: as many are enough; all at once in a year", 3, x.spread(1, 1));
-        CHECK.due("29: two years", 7, x.spread(1, 2));
-        CHECK.due("29: three years", 15, x.spread(1, 3));
-        CHECK.due("29: all keep it", 15, x.spread(1, 30));
-        CHECK.due("29: nobody has it", 0, x.spread(0, 30));
-        DialectAtlas y = line(1, 4, 9, 5, 9);
-        CHECK.due("29: 4 against 5", 1, y.spread(1, 30));
-        CHECK.due("29: 5 against 4", 15, y.spread(4, 30));
-        CHECK.due("29: in the first year", 14, y.spread(4, 1));
-        y.village(50, 1);
-        CHECK.due("29: one without a road never takes it", 15, y.spread(4, 30));
-        CHECK.due("29: and keeps it", 16, y.spread(16, 30));
-        DialectAtlas star = new DialectAtlas();
-        int[] folk = {1, 10, 20, 31};
+    @Says(promise = 28, text = "BEYOND: no such VILLAGE")
+    static void noRoundFromNoVillage(Check check) {
+        check.due("no villages at all", Check.BEYOND, new DialectAtlas().round(0, 0, -1));
+        DialectAtlas x = Given.villages(9);
+        check.due("village 9", Check.BEYOND, x.round(9, 0, -1));
+        check.due("village -1", Check.BEYOND, x.round(-1, 0, -1));
+        check.due("village 32, whose bit is that of 0", Check.BEYOND, x.round(32, 0, -1));
+        check.due("the greatest int", Check.BEYOND, x.round(Integer.MAX_VALUE, 0, -1));
+    }
+
+    @Says(promise = 28, text = "or bits of others")
+    static void noRoundOverOthers(Check check) {
+        DialectAtlas x = Given.line(1, 1, 1, 1);
+        check.due("bit 3", Check.BEYOND, x.round(0, 8, -1));
+        check.due("bit 3 and one that is there", Check.BEYOND, x.round(0, 10, -1));
+        check.due("bit 31", Check.BEYOND, x.round(0, Integer.MIN_VALUE, -1));
+        check.due("all bits but home", Check.BEYOND, x.round(0, -2, -1));
+        check.due("bit 2", 4, x.round(0, 4, -1));
+    }
+
+    @Says(promise = 28, text = "or home itself")
+    static void noRoundOverHome(Check check) {
+        DialectAtlas x = Given.line(1, 1, 1, 1);
+        check.due("home alone", Check.BEYOND, x.round(2, 4, -1));
+        check.due("home and others", Check.BEYOND, x.round(0, 7, -1));
+    }
+
+    @Says(promise = 28, text = "or what.")
+    static void noOtherPartOfARound(Check check) {
+        DialectAtlas x = Given.line(1, 1, 1);
+        check.due("what -2", Check.BEYOND, x.round(0, 2, -2));
+        check.due("the least int", Check.BEYOND, x.round(0, 2, Integer.MIN_VALUE));
+    }
+
+    @Says(promise = 28, text = "SIZE: there are more than 7.")
+    static void tooManyStops(Check check) {
+        DialectAtlas x = Given.line(1, 1, 1, 1, 1, 1, 1, 1, 1, 1, 1, 1, 1);
+        check.due("seven", 14, x.round(0, 0b11111110, -1));
+        check.due("eight", Check.SIZE, x.round(0, 0b111111110, -1));
+        check.due("eleven", Check.SIZE, x.round(0, 0b111111111110, 0));
+    }
+
+    @Says(promise = 28, text = "CUT: one is.")
+    static void oneStopIsCut(Check check) {
+        DialectAtlas x = Given.line(4, 1, 1, 1);
+        x.road(1, 2, 0);
+        check.due("joined", 8, x.round(0, 2, -1));
+        check.due("one of two", Check.CUT, x.round(0, 6, -1));
+        check.due("the only one", Check.CUT, x.round(2, 1, 0));
+        check.due("one that isn't in the set does not count", 8, x.round(1, 1, -1));
+        check.due("an empty set has none", 0, x.round(2, 0, -1));
+    }
+
+    @Says(promise = 28, text = "NONE: there are not so many.")
+    static void notSoManyStops(Check check) {
+        DialectAtlas x = Given.line(1, 1, 1, 1, 1, 1, 1, 1, 1);
+        check.due("the last of two", 2, x.round(0, 6, 1));
+        check.due("a third of two", Check.NONE, x.round(0, 6, 2));
+        check.due("the first of none", Check.NONE, x.round(0, 0, 0));
+        check.due("an eighth of seven", Check.NONE, x.round(0, 0b11111110, 7));
+        check.due("the greatest int", Check.NONE, x.round(0, 6, Integer.MAX_VALUE));
+    }
+
+    @Says(promise = 29, term = 5, text = "SPREAD of a FORM: a set of VILLAGES has it; in each year each other one takes it")
+    static void takenYearByYear(Check check) {
+        DialectAtlas x = Given.line(1, 1, 1, 1, 1, 1);
+        check.due("no years", 1, x.spread(1, 0));
+        check.due("one year", 3, x.spread(1, 1));
+        check.due("two years", 7, x.spread(1, 2));
+        check.due("both ways at once", 14, x.spread(4, 1));
+        check.due("all keep it", 31, x.spread(1, 30));
+    }
+
+    @Says(promise = 29, term = 5, text = "if the FOLK of those with it, to which it has a ROAD, are as many as those of "
+            + "all others to which it has a ROAD, or more")
+    static void asManyFolkOrMore(Check check) {
+        DialectAtlas x = Given.villages(1);
+        int[] folk = {10, 20, 30, 999};
         for (int v = 0; v < 4; v++) {
-            star.village(v, folk[v]);
-            if (v > 0) {
-                star.road(0, v, 9);
+            x.village(0, folk[v]);
+            if (v < 3) {
+                x.road(0, 1 + v, 9);
             }
         }
-        CHECK.due("29: 30 against 31", 6, star.spread(6, 5));
-        CHECK.due("29: 31 against 30", 15, star.spread(8, 2));
-        CHECK.due("29: bits of others", Check.BEYOND, star.spread(16, 1));
-        CHECK.due("29: below 0", Check.BEYOND, star.spread(-1, 1));
-        CHECK.due("29: n 31", Check.BEYOND, star.spread(1, 31));
-        CHECK.due("29: n -1", Check.BEYOND, star.spread(1, -1));
+        check.due("10 and 20 against 30", 0b00111, x.spread(0b00110, 1));
+        check.due("30 against 10 and 20", 0b01001, x.spread(0b01000, 1));
+        check.due("20 against 10 and 30", 0b00100, x.spread(0b00100, 30));
+        check.due("one without a road does not count", 0b11001, x.spread(0b11000, 1));
+        x.road(0, 4, 1);
+        check.due("with one it does", 0b01000, x.spread(0b01000, 1));
+        x.road(0, 4, 0);
+        x.village(0, 1);
+        x.road(0, 5, 1);
+        check.due("30 against 31", 0b01000, x.spread(0b01000, 1));
     }
 
-    private static void seeds() {
-        DialectAtlas x = line(1, 1, 1, 1, 1, 1, 1, 1);
-        CHECK.due("30: in 30 years any", 1, x.seeds(30));
-        CHECK.due("30: in 6 years", 1, x.seeds(6));
-        CHECK.due("30: in 5 years", 2, x.seeds(5));
-        CHECK.due("30: in 3 years the middle one", 8, x.seeds(3));
-        CHECK.due("30: in 2 years", 0b10001, x.seeds(2));
-        CHECK.due("30: in 1 year", 0b100101, x.seeds(1));
-        CHECK.due("30: at once", Check.NONE, x.seeds(0));
+    @Says(promise = 29, term = 5, text = "(and one at least has it).")
+    static void oneAtLeastHasIt(Check check) {
+        DialectAtlas x = Given.villages(3);
+        x.road(0, 1, 1);
+        check.due("nobody has it", 0, x.spread(0, 30));
+        check.due("0 against 0, without a road", 3, x.spread(1, 30));
+        check.due("it keeps it without a road", 4, x.spread(4, 30));
     }
 
-    private static void seedFindings() {
-        DialectAtlas x = new DialectAtlas();
-        CHECK.due("30: no villages, no seeds", 0, x.seeds(0));
-        CHECK.due("30: n 31", Check.BEYOND, x.seeds(31));
-        CHECK.due("30: n -1", Check.BEYOND, x.seeds(-1));
-        int[] due = {1, 3, 7, Check.NONE};
-        for (int v = 0; v < 4; v++) {
-            x.village(v, 1);
-            CHECK.due("30: each for itself", due[v], x.seeds(30));
-            CHECK.due("30: at once", due[v], x.seeds(0));
-        }
+    @Says(promise = 29, text = "VILLAGES that have a FORM behind n years (0 to 30) of SPREAD from a set on.")
+    static void behindNYears(Check check) {
+        DialectAtlas x = Given.line(1, 1, 1, 1, 1, 1, 1, 1, 1, 1, 1, 1, 1);
+        check.due("ten years", 0b11111111111, x.spread(1, 10));
+        check.due("eleven years", 0b111111111111, x.spread(1, 11));
+        check.due("thirty years", 0b111111111111, x.spread(0b100000000000, 30));
+        check.due("no years", 0b101, x.spread(0b101, 0));
+        check.due("no villages", 0, new DialectAtlas().spread(0, 30));
+    }
+
+    @Says(promise = 29, text = "BEYOND: bits of others")
+    static void noSpreadFromOthers(Check check) {
+        check.due("no villages at all", Check.BEYOND, new DialectAtlas().spread(1, 0));
+        DialectAtlas x = Given.villages(4);
+        check.due("bit 4", Check.BEYOND, x.spread(16, 0));
+        check.due("bit 31", Check.BEYOND, x.spread(Integer.MIN_VALUE, 0));
+        check.due("all bits", Check.BEYOND, x.spread(-1, 0));
+        check.due("all that are there", 15, x.spread(15, 0));
+    }
+
+    @Says(promise = 29, text = ", n.")
+    static void noSpreadForSuchYears(Check check) {
+        DialectAtlas x = Given.villages(1);
+        check.due("-1", Check.BEYOND, x.spread(1, -1));
+        check.due("31", Check.BEYOND, x.spread(1, 31));
+        check.due("the greatest int", Check.BEYOND, x.spread(1, Integer.MAX_VALUE));
+        check.due("30", 1, x.spread(1, 30));
+    }
+
+    @Says(promise = 30, term = 5,
+            text = "SEEDS for n years: a set of VILLAGES (3 at most) from which on all have it behind n years")
+    static void threeSeedsAtMost(Check check) {
+        DialectAtlas x = Given.villages(3);
+        check.due("three alone", 7, x.seeds(30));
+        x.village(0, 1);
+        check.due("four alone", Check.NONE, x.seeds(30));
         x.road(2, 3, 1);
-        CHECK.due("30: two of them joined", 7, x.seeds(1));
-        CHECK.due("30: not at once", Check.NONE, x.seeds(0));
+        check.due("two of them joined", 7, x.seeds(1));
+        check.due("at once", Check.NONE, x.seeds(0));
+    }
+
+    @Says(promise = 30, term = 5, text = "the fewest")
+    static void theFewestSeeds(Check check) {
+        DialectAtlas x = Given.line(1, 1, 1, 1, 1, 1, 1, 1);
+        check.due("in 3 years one, 8, rather than two, 3", 8, x.seeds(3));
+        check.due("in 2 years two", 0b10001, x.seeds(2));
+        check.due("in 1 year three", 0b100101, x.seeds(1));
+        check.due("no villages need none", 0, new DialectAtlas().seeds(0));
+    }
+
+    @Says(promise = 30, term = 5, text = ", of several the least as a number.")
+    static void theLeastSeeds(Check check) {
+        DialectAtlas x = Given.line(1, 1, 1, 1, 1, 1, 1, 1);
+        check.due("in 30 years any", 1, x.seeds(30));
+        check.due("in 6 years the ends or more", 1, x.seeds(6));
+        check.due("in 5 years not the ends", 2, x.seeds(5));
+        check.due("in 4 years", 4, x.seeds(4));
+    }
+
+    @Says(promise = 30, text = "SEEDS for n years (0 to 30), as bits.")
+    static void seedsAsBits(Check check) {
+        DialectAtlas x = Given.villages(1);
+        check.due("at once", 1, x.seeds(0));
+        check.due("in 30 years", 1, x.seeds(30));
+        check.due("two alone", 3, Given.villages(2).seeds(0));
+        DialectAtlas twelve = Given.line(1, 1, 1, 1, 1, 1, 1, 1, 1, 1, 1, 1, 1);
+        check.due("twelve in 2 years", 0b1000010001, twelve.seeds(2));
+    }
+
+    @Says(promise = 30, text = "BEYOND.")
+    static void noSeedsForSuchYears(Check check) {
+        DialectAtlas x = Given.villages(1);
+        check.due("-1", Check.BEYOND, x.seeds(-1));
+        check.due("31", Check.BEYOND, x.seeds(31));
+        check.due("the greatest int", Check.BEYOND, x.seeds(Integer.MAX_VALUE));
+    }
+
+    @Says(promise = 30, text = "NONE: there is no such set.")
+    static void noSuchSeeds(Check check) {
+        DialectAtlas x = Given.line(1, 1, 1, 1, 1, 1, 1, 1, 1, 1, 1, 1, 1);
+        check.due("twelve in a year", Check.NONE, x.seeds(1));
+        check.due("twelve at once", Check.NONE, x.seeds(0));
+        check.due("twelve alone", Check.NONE, Given.villages(12).seeds(30));
     }
 }

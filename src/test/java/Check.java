@@ -11,12 +11,18 @@ final class Check {
 
     private int checked;
     private int wrong;
+    private String part = "";
+
+    /** What is told from here on is told under this name. */
+    void begin(String name) {
+        part = name;
+    }
 
     void due(String what, long want, long got) {
         checked++;
         if (got != want) {
             wrong++;
-            System.out.println(what + " answered " + got + ", due is " + want);
+            System.out.println(part + what + " answered " + got + ", due is " + want);
         }
     }
 
@@ -24,8 +30,12 @@ final class Check {
         checked++;
         if (!isSo) {
             wrong++;
-            System.out.println(what + " does not hold");
+            System.out.println(part + what + " does not hold");
         }
+    }
+
+    int checked() {
+        return checked;
     }
 
     int wrong() {
@@ -37,42 +47,5 @@ final class Check {
         if (wrong != 0 || checked == 0) {
             System.exit(1);
         }
-    }
-
-    /** A row of sounds, or a text, as the number whose lowest byte is its first sign. */
-    static long bytes(String text) {
-        long number = 0;
-        for (int i = 0; i < text.length(); i++) {
-            number |= (long) (text.charAt(i) & 255) << 8 * i;
-        }
-        return number;
-    }
-
-    /** Letters a to z as a row of sounds. */
-    static long sounds(String letters) {
-        long number = 0;
-        for (int i = 0; i < letters.length(); i++) {
-            number |= (long) (letters.charAt(i) - 'a') << 8 * i;
-        }
-        return number;
-    }
-
-    static int form(DialectAtlas atlas, String letters) {
-        return atlas.form(letters.length(), sounds(letters));
-    }
-
-    /** Feeds a text of any length; what the last feed answered. */
-    static int feed(DialectAtlas atlas, String text) {
-        int answer = 0;
-        for (int i = 0; i < text.length(); i += 8) {
-            String part = text.substring(i, Math.min(i + 8, text.length()));
-            answer = atlas.feed(part.length(), bytes(part));
-        }
-        return answer;
-    }
-
-    static int text(DialectAtlas atlas, int t, String text) {
-        feed(atlas, text);
-        return atlas.text(t);
     }
 }

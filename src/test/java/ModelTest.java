@@ -242,7 +242,7 @@ public final class ModelTest {
         for (int i = 0; i < text.length();) {
             int n = Math.min(1 + random.nextInt(8), text.length() - i);
             long rest = random.nextBoolean() && n < 8 ? -1L << 8 * n : 0;
-            pending.add(new Call("feed", new Object[] {n, Check.bytes(text.substring(i, i + n)) | rest}));
+            pending.add(new Call("feed", new Object[] {n, Given.bytes(text.substring(i, i + n)) | rest}));
             i += n;
         }
         pending.add(new Call("text", new Object[] {number(0, 3)}));

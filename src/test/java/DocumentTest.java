@@ -1,0 +1,86 @@
+import java.io.IOException;
+import java.lang.reflect.Method;
+import java.nio.file.Files;
+import java.nio.file.Path;
+import java.util.Arrays;
+import java.util.List;
+import java.util.Map;
+import java.util.TreeMap;
+import java.util.regex.Matcher;
+import java.util.regex.Pattern;
+
+/** Each word of the document's Terms and promises is held by a test of Sentences, and each of these quotes it rightly. */
+public final class DocumentTest {
+    private static final Path DOCUMENT = Path.of("../shared/DOC.md");
+    private static final int PROMISES = 35;
+    private static final List<Class<?>> TESTS = List.of(VillagesTest.class, AnswersTest.class, ChangesTest.class,
+            BordersTest.class, AskingTest.class, SheetsTest.class, FindingsTest.class);
+
+    private final Check check = new Check();
+    /** The document's texts by their places, and which of their signs a test quotes. */
+    private final Map<String, String> texts = new TreeMap<>();
+    private final Map<String, boolean[]> quoted = new TreeMap<>();
+    private final boolean[] isNamed = new boolean[PROMISES + 1];
+
+    public static void main(String[] args) throws IOException {
+        DocumentTest test = new DocumentTest();
+        test.read(Files.readString(DOCUMENT));
+        for (Class<?> type : TESTS) {
+            for (Method m : Sentences.of(type)) {
+                test.mark(m.getName(), m.getAnnotation(Says.class));
+            }
+        }
+        test.tellWhatIsLeft();
+        test.check.end();
+    }
+
+    private void read(String document) {
+        String terms = document.substring(document.indexOf("## Terms") + 8, document.indexOf("Ahead of the calls"));
+        String[] parts = terms.replaceAll("```(text)?", "").split("\n(?=\\d\\. )");
+        for (int i = 0; i < parts.length; i++) {
+            add("Term " + i, parts[i].replaceFirst("^\\d\\. ", ""));
+        }
+        Matcher promises = Pattern.compile("## Promise (\\d+): .*\n\n`[^`]*`: (.*)").matcher(document);
+        while (promises.find()) {
+            add("Promise " + promises.group(1), promises.group(2));
+        }
+        check.due("terms and promises", 7 + PROMISES, texts.size());
+    }
+
+    private void add(String place, String text) {
+        String line = text.replaceAll("\\s+", " ").trim();
+        texts.put(place, line);
+        quoted.put(place, new boolean[line.length()]);
+    }
+
+    private void mark(String name, Says says) {
+        for (int promise : says.promise()) {
+            check.holds(name + ": there is a promise " + promise, promise >= 1 && promise <= PROMISES);
+            isNamed[Math.max(0, Math.min(promise, PROMISES))] = true;
+            String place = says.term() == Says.UNDER_THE_PROMISE ? "Promise " + promise : "Term " + says.term();
+            String text = texts.getOrDefault(place, "");
+            int from = text.indexOf(says.text());
+            boolean isOnce = from >= 0 && from == text.lastIndexOf(says.text());
+            check.holds(name + ": \"" + says.text() + "\" stands once in " + place, isOnce);
+            if (isOnce) {
+                Arrays.fill(quoted.get(place), from, from + says.text().length(), true);
+            }
+        }
+    }
+
+    private void tellWhatIsLeft() {
+        for (int promise = 1; promise <= PROMISES; promise++) {
+            check.holds("promise " + promise + " is named by a test", isNamed[promise]);
+        }
+        for (Map.Entry<String, String> entry : texts.entrySet()) {
+            StringBuilder left = new StringBuilder();
+            boolean[] isQuoted = quoted.get(entry.getKey());
+            for (int i = 0; i < isQuoted.length; i++) {
+                left.append(isQuoted[i] ? ' ' : entry.getValue().charAt(i));
+            }
+            boolean isAll = left.chars().noneMatch(Character::isLetterOrDigit);
+            check.holds(entry.getKey() + " is quoted whole; \"" + left.toString().replaceAll("\\s+", " ").trim()
+                    + "\" is left; that", isAll);
+        }
+    }
+}
