@@ -366,9 +366,12 @@ public final class AnswersTest {
         DialectAtlas x = Given.speaker("a", "e", "f");
         check.due("to itself", 0, x.far(2, 2));
         check.due("0 and 2", 3, x.far(0, 2));
+        check.due("1 and 2", 3, x.far(1, 2));
         x.undo();
         Given.form(x, "b");
-        check.due("another form 2", 1, x.far(0, 2));
+        check.due("0 and another form 2", 1, x.far(0, 2));
+        check.due("1 and another form 2", 1, x.far(1, 2));
+        check.due("it and itself", 0, x.far(2, 2));
     }
 
     @Says(promise = 10, text = "BEYOND.")

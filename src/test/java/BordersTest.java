@@ -126,7 +126,15 @@ public final class BordersTest {
         }
         x.day(1);
         x.take(1);
-        check.due("one is taken back today", 0, x.border(0, 0, 1, 0));
+        check.due("the second form is taken back today", 0, x.border(0, 0, 1, 0));
+        check.due("all say the first one then", 1, x.border(0, 0, 1, 3));
+        x.undo();
+        x.take(0);
+        check.due("the first form is, in one village", 0, x.border(0, 0, 1, 0));
+        check.due("it is above the other one then", 1, x.border(0, 0, 1, 3));
+        x.take(2);
+        check.due("in both", -200, x.border(0, 0, 1, 2));
+        check.due("all say the second one then", 0, x.border(0, 0, 1, 3));
         check.due("of another thing", 0, x.border(1, 0, 1, 0));
     }
 
@@ -251,6 +259,8 @@ public final class BordersTest {
         parting(check, Given.sayers("a", "e", "z"), 2, 11, 0, 0, 1);
         parting(check, Given.sayers("a", "e", "z"), 4, 11, 0, 0, 1);
         parting(check, Given.sayers("", "aaaa", "zzzz", "", "aaaa"), 4, 10, 0, 0, 1, 0, 0);
+        // 3 for pf and kf, 2 for zf and z.
+        parting(check, Given.sayers("zzk", "zf", "pf", "a", "kf", "z"), 4, 25, 0, 1, 2, 3, 2, 1);
     }
 
     @Says(promise = 24, term = 4, text = "and 5 for each DIALECT")

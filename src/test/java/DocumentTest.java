@@ -3,7 +3,6 @@ import java.lang.reflect.Method;
 import java.nio.file.Files;
 import java.nio.file.Path;
 import java.util.Arrays;
-import java.util.List;
 import java.util.Map;
 import java.util.TreeMap;
 import java.util.regex.Matcher;
@@ -13,8 +12,6 @@ import java.util.regex.Pattern;
 public final class DocumentTest {
     private static final Path DOCUMENT = Path.of("../shared/DOC.md");
     private static final int PROMISES = 35;
-    private static final List<Class<?>> TESTS = List.of(VillagesTest.class, AnswersTest.class, ChangesTest.class,
-            BordersTest.class, AskingTest.class, SheetsTest.class, FindingsTest.class);
 
     private final Check check = new Check();
     /** The document's texts by their places, and which of their signs a test quotes. */
@@ -25,7 +22,7 @@ public final class DocumentTest {
     public static void main(String[] args) throws IOException {
         DocumentTest test = new DocumentTest();
         test.read(Files.readString(DOCUMENT));
-        for (Class<?> type : TESTS) {
+        for (Class<?> type : Sentences.TESTS) {
             for (Method m : Sentences.of(type)) {
                 test.mark(m.getName(), m.getAnnotation(Says.class));
             }
@@ -79,8 +76,8 @@ public final class DocumentTest {
                 left.append(isQuoted[i] ? ' ' : entry.getValue().charAt(i));
             }
             boolean isAll = left.chars().noneMatch(Character::isLetterOrDigit);
-            check.holds(entry.getKey() + " is quoted whole; \"" + left.toString().replaceAll("\\s+", " ").trim()
-                    + "\" is left; that", isAll);
+            check.holds("that tests quote \"" + left.toString().replaceAll("\\s+", " ").trim() + "\" of "
+                    + entry.getKey(), isAll);
         }
     }
 }

@@ -7,6 +7,9 @@ import java.util.List;
 
 /** Runs the methods of a test that hold a sentence of the document, each under the name of its promise. */
 final class Sentences {
+    static final List<Class<?>> TESTS = List.of(VillagesTest.class, AnswersTest.class, ChangesTest.class,
+            BordersTest.class, AskingTest.class, SheetsTest.class, FindingsTest.class);
+
     private Sentences() {
     }
 
@@ -23,10 +26,14 @@ final class Sentences {
 
     static void run(Class<?> test) throws IllegalAccessException {
         Check check = new Check();
+        holdAll(test, check);
+        check.end();
+    }
+
+    static void holdAll(Class<?> test, Check check) throws IllegalAccessException {
         for (Method m : of(test)) {
             hold(m, check);
         }
-        check.end();
     }
 
     private static void hold(Method m, Check check) throws IllegalAccessException {

@@ -60,6 +60,21 @@ public final class SheetsTest {
         check.due("others stay missing", Check.MISSING, x.put(0, 0, 0));
     }
 
+    @Says(promise = 31, text = "A sheet has n numbers")
+    static void otherSheetsStay(Check check) {
+        DialectAtlas x = Given.villages(2);
+        for (int s = 0; s <= 3; s++) {
+            Given.sheet(x, s, 0, 9);
+        }
+        for (int s = 0; s <= 3; s++) {
+            x.sheet(s, 8, 2);
+            for (int other = 0; other <= 3; other++) {
+                check.due("sheet " + other + " behind " + s, other == s ? -1 : 1, x.proves(other, 5));
+            }
+            x.put(s, 1, 9);
+        }
+    }
+
     @Says(promise = 31, text = "bits 0: it is MISSING: n (0).")
     static void noBitsMakeItMissing(Check check) {
         DialectAtlas x = new DialectAtlas();
@@ -178,20 +193,32 @@ public final class SheetsTest {
     @Says(promise = 33, text = "n numbers of a sheet from one on come to another one from one on: n.")
     static void numbersComeToAnother(Check check) {
         DialectAtlas x = Given.villages(4);
-        Given.sheet(x, 0, 0, 1, 2, 3);
-        x.sheet(2, 8, 6);
-        check.due("four", 4, x.copy(0, 0, 2, 2, 4));
-        x.sheet(0, 8, 4);
+        Given.sheet(x, 1, 0, 1, 2, 3);
+        Given.sheet(x, 2, 0, 0, 0, 0, 0, 0);
+        check.due("four", 4, x.copy(1, 0, 2, 2, 4));
+        Given.sheet(x, 0, 0, 0, 0, 9);
         check.due("two of them", 2, x.copy(2, 3, 0, 1, 2));
+        check.due("0 1 2 9", 3, x.proves(0, 99));
+        x.put(0, 3, 0);
         check.due("0 1 2 0", -1, x.proves(0, 15));
-        check.due("none, at both ends", 0, x.copy(0, 4, 2, 6, 0));
-        check.due("it stays", -1, x.proves(0, 15));
-        check.due("all 20", 20, x.copy(filled(x, 1), 0, filled(x, 3), 0, 20));
+        check.due("three dialects", 100, x.proves(0, 14));
+        check.due("none, at both ends", 0, x.copy(1, 4, 2, 6, 0));
+        check.due("the first one stays", 100, x.proves(1, 19));
     }
 
-    private static int filled(DialectAtlas x, int s) {
-        x.sheet(s, 16, 20);
-        return s;
+    @Says(promise = 33, text = "from one on come to another one from one on: n.")
+    static void allNumbersComeToAnother(Check check) {
+        DialectAtlas x = Given.villages(10);
+        x.sheet(1, 32, 20);
+        x.sheet(3, 32, 20);
+        x.put(1, 9, 1 << 30);
+        x.put(1, 19, 1 << 30);
+        check.due("all 20", 20, x.copy(1, 0, 3, 0, 20));
+        check.due("number 9 of the second", 9, x.proves(3, 99));
+        x.put(3, 9, 0);
+        check.due("the first stands for itself", 9, x.proves(1, 99));
+        check.due("the last of the second", 1, x.copy(3, 19, 3, 0, 1));
+        check.due("it is no dialect", 0, x.proves(3, 99));
     }
 
     @Says(promise = 33, text = "n numbers of a sheet")
