@@ -48,8 +48,10 @@ public final class DenseRunsTest {
                 CHECK.due("22: drawn run " + run, plain.border(thing, 1, 0, what), x.border(thing, 1, 0, what));
             }
         }
-        for (int k = 1; k <= 4 && x.count(0) < 9; k++) {
-            for (int what = -1; what < x.count(0); what++) {
+        // The plain search is dear for the most villages that can be parted: there two answers for each k are enough.
+        int step = x.count(0) < 9 ? 1 : x.count(0);
+        for (int k = 1; k <= 4 && x.count(0) <= 10; k++) {
+            for (int what = -1; what < x.count(0); what += step) {
                 CHECK.due("24: drawn run " + run, plain.dialects(k, what), x.dialects(k, what));
             }
         }

@@ -8,9 +8,13 @@ import java.util.TreeMap;
 import java.util.regex.Matcher;
 import java.util.regex.Pattern;
 
-/** Each word of the document's Terms and promises is held by a test of Sentences, and each of these quotes it rightly. */
+/**
+ * The class has the document's face; each word of its Terms and promises is held by a test of Sentences, and each of
+ * these quotes it rightly.
+ */
 public final class DocumentTest {
     private static final Path DOCUMENT = Path.of("../shared/DOC.md");
+    private static final Path SOURCE = Path.of("src/main/java/DialectAtlas.java");
     private static final int PROMISES = 35;
 
     private final Check check = new Check();
@@ -21,7 +25,9 @@ public final class DocumentTest {
 
     public static void main(String[] args) throws IOException {
         DocumentTest test = new DocumentTest();
-        test.read(Files.readString(DOCUMENT));
+        String document = Files.readString(DOCUMENT);
+        test.compareFace(document, Files.readString(SOURCE));
+        test.read(document);
         for (Class<?> type : Sentences.TESTS) {
             for (Method m : Sentences.of(type)) {
                 test.mark(m.getName(), m.getAnnotation(Says.class));
@@ -29,6 +35,29 @@ public final class DocumentTest {
         }
         test.tellWhatIsLeft();
         test.check.end();
+    }
+
+    /** What stands open in the class is the document's code block, in its order, with the headings ahead of their calls. */
+    private void compareFace(String document, String source) {
+        StringBuilder want = new StringBuilder();
+        Matcher headings = Pattern.compile("Ahead of the calls `(\\w+)`.*says: ----(.*)\\.").matcher(document);
+        Map<String, String> headingOf = new TreeMap<>();
+        while (headings.find()) {
+            headingOf.put(headings.group(1), headings.group(2));
+        }
+        check.due("headings", 6, headingOf.size());
+        Matcher calls = Pattern.compile("public (?:int )?(\\w+)\\(.*\\)(?=;)").matcher(document);
+        while (calls.find()) {
+            String heading = headingOf.get(calls.group(1));
+            want.append(heading == null ? "" : "// ----" + heading + "\n").append(calls.group()).append("\n");
+        }
+        StringBuilder got = new StringBuilder();
+        Matcher open = Pattern.compile("// ----.*|public .*\\)(?= \\{)").matcher(source);
+        while (open.find()) {
+            got.append(open.group()).append("\n");
+        }
+        check.due("lines of the face", PROMISES + 6, want.toString().lines().count());
+        check.holds("that the face is\n" + want + "and not\n" + got + "which", want.toString().equals(got.toString()));
     }
 
     private void read(String document) {

@@ -1,4 +1,5 @@
 import java.io.IOException;
+import java.lang.reflect.Array;
 import java.lang.reflect.Constructor;
 import java.lang.reflect.Field;
 import java.lang.reflect.Method;
@@ -6,7 +7,9 @@ import java.lang.reflect.Modifier;
 import java.nio.file.Files;
 import java.nio.file.Path;
 import java.util.Arrays;
+import java.util.IdentityHashMap;
 import java.util.List;
+import java.util.Map;
 import java.util.Set;
 import java.util.TreeSet;
 import java.util.regex.Matcher;
@@ -16,6 +19,8 @@ import java.util.regex.Pattern;
 public final class LanguageTest {
     private static final Check CHECK = new Check();
     private static final Path SOURCE = Path.of("src/main/java/DialectAtlas.java");
+    private static final long MOST_OBJECTS = 600_000;
+    private static final long MOST_PARTS = 7_300_000;
     private static final List<String> FACE = List.of(
             "village(int,int)", "road(int,int,int)", "walk(int,int)", "day(int)", "asked(int,int,int)", "as(int,int)",
             "form(int,long)", "sound(int,int)", "far(int,int)", "answer(int,int,int)", "take(int)", "answerIs(int,int)",
@@ -31,6 +36,7 @@ public final class LanguageTest {
         fields();
         words(Files.readString(SOURCE));
         lengths(Files.readAllLines(SOURCE));
+        room(Files.readAllLines(SOURCE));
         CHECK.end();
     }
 
@@ -131,5 +137,43 @@ public final class LanguageTest {
             }
         }
         CHECK.holds("lines are not too long", Arrays.stream(lines.toArray(new String[0])).allMatch(l -> l.length() <= 120));
+    }
+
+    /** No call makes an object, and a thousand atlases fill less than the room that all calls of one run have. */
+    private static void room(List<String> lines) {
+        for (String line : lines) {
+            boolean isMade = line.matches(".*\\bnew [A-Za-z]+[\\[(].*");
+            CHECK.holds("rule 12: made with the atlas, not by a call: " + line.trim(),
+                    !isMade || line.matches("\\s+private final \\w+(\\[\\])? \\w+ = new .*;"));
+        }
+        Map<Object, Boolean> seen = new IdentityHashMap<>();
+        long parts = partsOf(new DialectAtlas(), seen);
+        CHECK.holds("objects and arrays of an atlas: " + seen.size(), seen.size() * 1000L <= MOST_OBJECTS);
+        CHECK.holds("fields and elements of an atlas: " + parts, parts * 1000L <= MOST_PARTS);
+    }
+
+    private static long partsOf(Object whole, Map<Object, Boolean> seen) {
+        if (whole == null || seen.put(whole, true) != null) {
+            return 0;
+        }
+        if (whole.getClass().isArray()) {
+            return Array.getLength(whole);
+        }
+        long parts = 0;
+        for (Field f : whole.getClass().getDeclaredFields()) {
+            if (!Modifier.isStatic(f.getModifiers())) {
+                parts += 1 + (f.getType().isPrimitive() ? 0 : partsOf(valueOf(f, whole), seen));
+            }
+        }
+        return parts;
+    }
+
+    private static Object valueOf(Field f, Object whole) {
+        try {
+            f.setAccessible(true);
+            return f.get(whole);
+        } catch (IllegalAccessException refused) {
+            throw new IllegalStateException(refused);
+        }
     }
 }
